@@ -43,6 +43,7 @@ final class AheadTest {
         Check.same("hurt more", feet.ahead(9, 2), 1);
         feet.go(2);
         Check.same("hurt by now", feet.count(6), 1);
+        Check.same("none is hurt more", feet.ahead(9, 2), 0);
         Check.same("burnt more at 50", feet.ahead(46, 1), 0);
         Check.same("burnt more behind 50", feet.ahead(47, 1), 1);
     }
@@ -150,6 +151,8 @@ final class AheadTest {
         Check.same("no gusts", gusts.tried(1, 0, 9), 2);
         Check.same("he is held", gusts.tried(2, 0, 9), 0);
         Check.same("in 3 steps", gusts.tried(1, 0, 3), 1);
+        Check.same("in 2 steps", gusts.tried(0, 0, 2), 1);
+        Check.same("in 1 step", gusts.tried(0, 0, 1), 0);
         Check.same("in 0 steps", gusts.tried(1, 0, 0), 0);
         gusts.go(3);
         Check.same("more than now", gusts.tried(0, 0, 9), 0);

@@ -11,6 +11,8 @@ final class AlikeTest {
         + " rue skill looks hot depth step ; ; ( ) < <= = <> >= > + - * / 0 1 9 10 99 100 999 1000 9999 10000 a b c t u"
         + " abcdef abcdefg ! A < = > \n").split(" ");
 
+    private static final int[] FAR = {Integer.MIN_VALUE, Integer.MIN_VALUE + 1, -1000000, 1 << 30, Integer.MAX_VALUE};
+
     private final Random random;
     private final ColdFeet feet = new ColdFeet();
     private final Naive naive = new Naive();
@@ -181,15 +183,18 @@ final class AlikeTest {
     }
 
     private int man() {
-        return below(12) == 0 ? from(-2, 8) : below(Math.max(1, men));
+        return near(0, Math.max(0, men - 1));
     }
 
     private int thing() {
-        return below(12) == 0 ? from(-2, 10) : below(Math.max(1, things));
+        return near(0, Math.max(0, things - 1));
     }
 
-    /** Mostly as is due, sometimes one beside. */
+    /** Mostly as is due, sometimes one beside, or far away. */
     private int near(int least, int most) {
+        if (below(100) == 0) {
+            return FAR[below(FAR.length)];
+        }
         return below(12) == 0 ? from(least - 2, most + 2) : from(least, most);
     }
 
@@ -220,7 +225,7 @@ final class AlikeTest {
         boolean is = below(2) == 0;
         int a;
         int b;
-        switch (below(33)) {
+        switch (below(34)) {
             case 0: a = near(0, 8); Check.same(run + "man " + m + " " + a, manOf(feet, m, a), manOf(naive, m, a)); break;
             case 1: a = near(0, 4); Check.same(run + "thing " + t + " " + a, feet.thing(t, a), naive.thing(t, a)); break;
             case 2: a = near(0, 2); Check.same(run + "law " + a + " " + m, feet.law(a, m), naive.law(a, m)); break;
@@ -248,8 +253,8 @@ final class AlikeTest {
             case 19: Check.same(run + "next " + t, feet.next(t), naive.next(t)); break;
             case 20: a = below(2) == 0 ? near(1, 60) : from(1, 9); boolean isSo = below(6) == 0 ? is : isSaved(t, a);
                 Check.same(run + "see " + a + " " + t + " " + isSo, feet.see(a, t, isSo), naive.see(a, t, isSo)); break;
-            case 21: a = below(25); Check.same(run + "strike " + a, feet.strike(a), naive.strike(a)); break;
-            case 22: a = from(-2, 25); Check.same(run + "known " + a, feet.known(a), naive.known(a)); break;
+            case 21: a = near(0, 24); Check.same(run + "strike " + a, feet.strike(a), naive.strike(a)); break;
+            case 22: a = near(-1, 24); Check.same(run + "known " + a, feet.known(a), naive.known(a)); break;
             case 23: Check.same(run + "rues " + m, feet.rues(m), naive.rues(m)); break;
             case 24: a = below(20) == 0 ? -below(3) : random.nextInt() & 0x7fffffff; b = near(1, 99); int c = near(0, 8);
                 Check.same(run + "chance " + a + " " + b + " " + c, feet.chance(a, b, c), naive.chance(a, b, c)); break;
@@ -261,8 +266,8 @@ final class AlikeTest {
             case 28: Check.same(run + "back", feet.back(), naive.back()); break;
             case 29: a = below(2) == 0 ? Check.letters("" + (char) ('a' + below(26))) : random.nextInt(); b = near(0, 1);
                 Check.same(run + "named " + b + " " + a, feet.named(b, a), naive.named(b, a)); break;
-            case 30: a = near(0, 99999);
-                Check.same(run + "fault " + a % 3, feet.fault(a % 3), naive.fault(a % 3)); break;
+            case 30: a = near(0, 1); Check.same(run + "fault " + a, feet.fault(a), naive.fault(a)); break;
+            case 31: a = near(-2, -1); Check.same(run + "text " + a, feet.text(a), naive.text(a)); break;
             default: a = near(0, 14); Check.same(run + "count " + a, feet.count(a), naive.count(a));
         }
     }

@@ -14,6 +14,8 @@ final class NowTest {
         heatGrows();
         values();
         errors();
+        longLaws();
+        looksOfLaws();
         namesOfLaws();
         lawsThatAreNot();
         errorsFallBack();
@@ -216,6 +218,8 @@ final class NowTest {
         value("9999*9999*9999*2", Long.MIN_VALUE);
         value("(0-9999*9999*9999)*(9999*9999*9999)", Long.MIN_VALUE);
         value("(9999*9999*9999)*(0-2)", Long.MIN_VALUE);
+        value("(4096*1024*1024)*(4096*1024*1024)", Long.MIN_VALUE);
+        value("(0-4096*1024*1024)*(4096*1024*1024)", Long.MIN_VALUE);
         value(most + "*(0-1)", -1000000000000L);
         value(most + "*0", 0);
         value("0*(" + most + ")", 0);
@@ -224,6 +228,35 @@ final class NowTest {
         value("1 or 1/0", Long.MIN_VALUE);
         value("0 and 1/0", Long.MIN_VALUE);
         value("not(1/0)", Long.MIN_VALUE);
+    }
+
+    /** Laws of 64 KNOTS, with as many signs waiting as can be. */
+    private static void longLaws() {
+        StringBuilder nots = new StringBuilder();
+        StringBuilder sum = new StringBuilder("step");
+        for (int k = 0; k < 31; k++) {
+            nots.append("not ");
+            sum.append("+").append(k);
+        }
+        value(nots + "9", 0);
+        value(nots + "" + nots + "not 0", 1);
+        value("not(not(" + nots + "(not(not(not(not(not(" + nots.substring(0, 25 * 4) + "5))))))))", 0);
+        value("not " + sum, 0);
+        value(sum.toString(), 465);
+    }
+
+    private static void looksOfLaws() {
+        String told = "man a 0 9 9;thing t 5 1 50;law ";
+        ColdFeet hurt = Check.of(told + "hurt looks*100;");
+        hurt.go(1);
+        Check.same("no looks, no hurt", hurt.man(0, 4), 1);
+        hurt.pay(0, 1);
+        hurt.go(1);
+        Check.same("a look, a hurt", hurt.man(0, 4), 2);
+        ColdFeet after = Check.of(told + "after looks-hot;");
+        after.pay(0, 3);
+        after.go(2);
+        Check.same("rue by looks and heat", after.man(0, 1), 11);
     }
 
     private static void namesOfLaws() {

@@ -53,6 +53,7 @@ final class SeenTest {
         Check.same("see of 24", feet.see(1, 0, false), -1);
         Check.same("strike of 24", feet.strike(0), -1);
         Check.same("seen", feet.count(12), 24);
+        Check.same("all are struck", feet.rues(1), 1023);
     }
 
     private static void rues() {
@@ -62,6 +63,9 @@ final class SeenTest {
         Check.same("ann doesn't matter", feet.rues(0), 1023);
         feet.see(5, 1, true);
         Check.same("ann dares at 20", feet.rues(0), 1020);
+        ColdFeet tens = Check.of("man a 0 0 9;thing t 5 1 9;law dare rue=0 or rue=30 or rue=90 or rue=100;");
+        tens.see(2, 0, true);
+        Check.same("0, 30, 90", tens.rues(0), 0b1000001001);
         ColdFeet none = Check.of(HOUSE);
         none.see(2, 0, false);
         Check.same("bo doesn't dare", none.rues(1), 1);

@@ -37,6 +37,11 @@ final class TextTest {
         Check.same("text(701)", feet.text(701), -2);
         Check.same("text(700)", feet.text(700), 0);
         Check.same("text(1) on the empty tape", feet.text(1), -2);
+        for (int k = 1; k <= 35; k++) {
+            feet.feed(0x28282828, 0x28282828, 0x28282828, 0x28282828, 0x28282828);
+        }
+        Check.same("a text of 700 tokens", feet.text(700), -1);
+        Check.same("its fault's place", feet.fault(1), 0);
         Check.same("feed on the empty tape", feet.feed(-1, 0, 0, 0, 0), 20);
         Check.same("text of byte 255", feet.text(1), -1);
         Check.same("its fault", feet.fault(0), 1);
@@ -128,6 +133,7 @@ final class TextTest {
         Check.fault("man a 100 1 1;", 2, 6);
         Check.fault("man a 1 100 1;", 2, 8);
         Check.fault("man a 1 1 0;", 2, 10);
+        Check.fault("man a 1 1 10;", 2, 10);
         Check.fault("man a 99999999999999999999 1 1;", 2, 6);
         Check.fault("thing a 100 1 1;", 2, 8);
         Check.fault("thing a 1 0 1;", 2, 10);
