@@ -69,7 +69,7 @@ public final class ColdFeet {
     private Plan plan = new Plan();
     /** The next TEXT is read into it, so that all stays with a FAULT. */
     private Plan spare = new Plan();
-    private final Reader reader = new Reader(spare);
+    private final TextReader reader = new TextReader(spare);
     private int faultKind;
     private int faultPlace = NONE;
     private final World now = new World(plan);
@@ -338,18 +338,14 @@ public final class ColdFeet {
         return n >= 0 && n <= MOST_STEPS;
     }
 
-    private void tryFromNow(int n, int way) {
-        trial.become(now);
-        for (int k = 0; k < n; k++) {
-            trial.pass(way);
-        }
-    }
-
     public int ahead(int n, int what) {
         if (!isCount(n) || what < 0 || what > 4) {
             return NONE;
         }
-        tryFromNow(n, AS_IT_GOES);
+        trial.become(now);
+        for (int k = 0; k < n; k++) {
+            trial.pass(AS_IT_GOES);
+        }
         switch (what) {
             case 0: return trial.thingsThatAre(SAVED) - now.thingsThatAre(SAVED);
             case 1: return trial.thingsThatAre(BURNT) - now.thingsThatAre(BURNT);
@@ -787,7 +783,7 @@ public final class ColdFeet {
     }
 
     /** Cuts a TEXT into TOKENS. */
-    private static final class Scanner {
+    private static final class TokenCutter {
         static final int MOST_LETTERS = 6;
         /** A number beyond all that is said stays here. */
         static final int MOST_NUMBER = 1000000;
@@ -908,7 +904,7 @@ public final class ColdFeet {
     }
 
     /** Reads a TEXT into a Plan, up to its first FAULT. */
-    private static final class Reader {
+    private static final class TextReader {
         static final int WRONG_TOKEN = 1;
         static final int TOO_MUCH = 2;
         static final int TOLD = 3;
@@ -920,7 +916,7 @@ public final class ColdFeet {
 
         int fault;
         int faultPlace = NONE;
-        private final Scanner scanner = new Scanner();
+        private final TokenCutter cutter = new TokenCutter();
         private Plan plan;
         private int nextToken;
         private int kind;
@@ -931,9 +927,9 @@ public final class ColdFeet {
         private int waits;
         private int opened;
         private boolean isOperandDue;
-        private boolean isNotAllowed;
+        private boolean isPlaceOfNot;
 
-        Reader(Plan into) {
+        TextReader(Plan into) {
             plan = into;
         }
 
@@ -943,7 +939,7 @@ public final class ColdFeet {
             faultPlace = NONE;
             plan = into;
             plan.clear();
-            scanner.scan(bytes, n);
+            cutter.scan(bytes, n);
             nextToken = 0;
             for (int lines = 0; lines <= MOST_BYTES; lines++) {
                 advance();
@@ -958,10 +954,10 @@ public final class ColdFeet {
         }
 
         private void advance() {
-            if (nextToken >= 0 && nextToken < scanner.size) {
-                kind = scanner.kinds[nextToken];
-                place = scanner.places[nextToken];
-                value = scanner.values[nextToken];
+            if (nextToken >= 0 && nextToken < cutter.size) {
+                kind = cutter.kinds[nextToken];
+                place = cutter.places[nextToken];
+                value = cutter.values[nextToken];
                 nextToken++;
             }
         }
@@ -1110,7 +1106,7 @@ public final class ColdFeet {
             waits = 0;
             opened = 0;
             isOperandDue = true;
-            isNotAllowed = true;
+            isPlaceOfNot = true;
             for (int k = 0; k <= MOST_BYTES; k++) {
                 advance();
                 if (!isOperandDue && kind == Token.SEMICOLON && opened == 0) {
@@ -1129,7 +1125,7 @@ public final class ColdFeet {
             if (kind == Token.OPEN) {
                 return takeOpen();
             }
-            boolean isNot = kind == Token.NOT && isNotAllowed;
+            boolean isNot = kind == Token.NOT && isPlaceOfNot;
             boolean isNumber = kind == Token.NUMBER;
             boolean isName = kind >= Token.FEAR && kind <= Token.STEP;
             if (!isNot && !isNumber && !isName) {
@@ -1153,14 +1149,16 @@ public final class ColdFeet {
                 return fails(TOO_MUCH);
             }
             opened++;
-            isNotAllowed = true;
+            isPlaceOfNot = true;
             putWaiting(0);
             return true;
         }
 
         private boolean takeOperator() {
             if (kind == Token.CLOSE && opened > 0) {
-                takeClose();
+                release(1);
+                opened--;
+                waits = Math.max(0, waits - 1);
                 return true;
             }
             int level = kind == Token.NOT ? 0 : levelOf(kind);
@@ -1178,16 +1176,8 @@ public final class ColdFeet {
             plan.laws.knots++;
             putWaiting(level);
             isOperandDue = true;
-            isNotAllowed = kind == Token.AND || kind == Token.OR;
+            isPlaceOfNot = kind == Token.AND || kind == Token.OR;
             return true;
-        }
-
-        private void takeClose() {
-            release(1);
-            opened--;
-            if (waits > 0) {
-                waits--;
-            }
         }
 
         /** A '(' waits at level 0, so that nothing below it is released ahead of its ')'. */
