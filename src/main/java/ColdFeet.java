@@ -537,6 +537,7 @@ public final class ColdFeet {
         return what < size ? bestRow[what] : NOTHING;
     }
 
+    /** WORTH of what is SAVED in the 30 STEPS: what was SAVED ahead of them doesn't count. */
     private int worthOfRow(int size) {
         trial.become(now);
         for (int k = 0; k < size && k < ROW; k++) {
@@ -545,7 +546,7 @@ public final class ColdFeet {
         for (int k = 0; k < 30; k++) {
             trial.pass(AS_IT_GOES);
         }
-        return trial.savedWorth();
+        return trial.savedWorth() - now.savedWorth();
     }
 
     /** Makes the row the next one by MEN; false: it was the last one. */

@@ -5,6 +5,7 @@ final class MatchTest {
         firstOfSeveralMatches();
         matchesOfWhatIsLeft();
         orders();
+        ordersOfWhatIsSavedLater();
         ordersOfFour();
         rests();
         comesBack();
@@ -64,12 +65,29 @@ final class MatchTest {
         order(new ColdFeet(), -2, -2, -2, -2, 0);
         ColdFeet later = Check.of("man a 0 0 9;man b 0 0 9;thing t 5 1 99;thing u 50 1 99;");
         later.swap(0, 1);
-        later.go(2);
+        later.go(1);
         order(later, 0, 1, -2, -2, 55);
+        later.go(1);
+        order(later, 0, 1, -2, -2, 0);
         ColdFeet late = Check.of("man a 0 0 9;thing t 5 1 99;law dare step=28;");
         order(late, 0, -2, -2, -2, 5);
         late = Check.of("man a 0 0 9;thing t 5 1 99;law dare step=29;");
         order(late, 0, -2, -2, -2, 0);
+    }
+
+    /** What was SAVED ahead of the call isn't SAVED in the 30 STEPS. */
+    private static void ordersOfWhatIsSavedLater() {
+        ColdFeet feet = Check.of("man a 6 0 9;man b 0 0 9;thing s 9 1 99;thing t 5 6 99;thing u 50 1 2;"
+            + "law dare step<>1 and fear<>depth;");
+        feet.hold(0, true);
+        feet.go(2);
+        Check.same("s is saved", feet.count(10), 9);
+        feet.hold(0, false);
+        order(feet, 1, 0, -2, -2, 55);
+        feet.swap(0, 1);
+        feet.go(2);
+        Check.same("s, u are saved", feet.count(10), 59);
+        order(feet, 0, 1, -2, -2, 5);
     }
 
     private static void ordersOfFour() {

@@ -789,7 +789,7 @@ final class Naive {
             for (int k = 0; k < size; k++) {
                 then.rank.set(k, now.man(row.get(k)).copy());
             }
-            int worth = then.steps(30).worth();
+            int worth = then.steps(30).worth() - now.worth();
             if (worth > bestWorth) {
                 bestWorth = worth;
                 bestThings = row.stream().mapToInt(man -> man).toArray();
