@@ -4,20 +4,34 @@ import java.nio.charset.StandardCharsets;
 final class Check {
     private static int checks = 0;
     private static int wrong = 0;
+    /** The sentence of the document that is tested, so that a failure names it. */
+    private static String sentence = "";
 
     private Check() {
+    }
+
+    static void about(String sentenceOfDocument) {
+        sentence = "[" + sentenceOfDocument + "] ";
     }
 
     static void same(String what, long got, long want) {
         checks++;
         if (got != want) {
             wrong++;
-            System.out.println(what + " answered " + got + ", due is " + want);
+            System.out.println(sentence + what + " answered " + got + ", due is " + want);
         }
     }
 
     static void same(String what, boolean got, boolean want) {
         same(what, got ? 1 : 0, want ? 1 : 0);
+    }
+
+    static void same(String what, String got, String want) {
+        checks++;
+        if (!got.equals(want)) {
+            wrong++;
+            System.out.println(sentence + what + " is\n  " + got + "\ndue is\n  " + want);
+        }
     }
 
     static void end() {
@@ -55,6 +69,15 @@ final class Check {
         if (tell(feet, text) < 0) {
             same("fault " + feet.fault(0) + " at " + feet.fault(1) + " of: " + text, 1, 0);
         }
+        return feet;
+    }
+
+    /** A text is taken: how many LINES it has, and no fault. */
+    static ColdFeet lines(String text, int lines) {
+        ColdFeet feet = new ColdFeet();
+        same("text of: " + text, tell(feet, text), lines);
+        same("fault(0) of: " + text, feet.fault(0), 0);
+        same("fault(1) of: " + text, feet.fault(1), ColdFeet.NONE);
         return feet;
     }
 
