@@ -24,6 +24,8 @@ final class EdgeAskTest {
         matchByDepth();
         matchOfWhatIs();
         firstMatch();
+        matchAgain();
+        matchOfFewer();
         whatsOfOrder();
         orderOfThirtySteps();
         orderOfFirstFour();
@@ -56,6 +58,7 @@ final class EdgeAskTest {
         whatsOfTried();
         stepsOfTried();
         triedOtherwise();
+        rueOfTried();
         Check.end();
     }
 
@@ -401,6 +404,50 @@ final class EdgeAskTest {
         match(Check.of("man a 0 0 9;man b 0 0 1;man c 0 0 9;thing t 5 2 9;thing u 5 1 9;"), -2, 1, 0, -2, -2, -2, 10);
         match(Check.of("man a 0 0 2;man b 0 0 2;man c 0 0 1;thing t 5 2 9;thing u 5 2 9;thing v 5 1 9;"),
             0, 1, 2, -2, -2, -2, 15);
+        match(Check.of("man a 0 0 6;man b 0 0 1;man c 0 0 1;thing t 9 6 9;thing u 3 6 9;thing v 5 1 9;"),
+            0, -2, 2, -2, -2, -2, 14);
+    }
+
+    /** One object, texts with fewer and fewer men and things: nothing of a match ahead is left. */
+    private static void matchAgain() {
+        Check.about("MATCH: of the TEXT and the THINGS that are now");
+        ColdFeet feet = new ColdFeet();
+        for (int men = 6; men >= 0; men--) {
+            for (int things = 8; things >= 0; things -= 4) {
+                StringBuilder text = new StringBuilder(men(men));
+                for (int k = 0; k < things; k++) {
+                    text.append("thing ").append((char) ('s' + k)).append(' ').append(90 - k).append(" 1 ").append(k).append(';');
+                }
+                Check.tell(feet, text.toString());
+                for (int gone = 0; gone <= things; gone++) {
+                    int worth = 0;
+                    for (int k = gone; k < things && k - gone < men; k++) {
+                        worth += 90 - k;
+                    }
+                    Check.same(men + " men, " + things + " things, " + gone + " burnt", feet.match(6), worth);
+                    feet.go(1);
+                }
+            }
+        }
+    }
+
+    /** Men and things fewer by one or all at once, nothing burnt in between. */
+    private static void matchOfFewer() {
+        Check.about("MATCH: each THING one MAN at most, WORTH in sum");
+        ColdFeet feet = new ColdFeet();
+        String[] things = {"thing t 9 1 9;thing u 8 1 9;", "thing u 8 1 9;", "", "thing t 7 2 9;"};
+        int[][] worths = {{0, 9, 17}, {0, 8, 8}, {0, 0, 0}, {0, 0, 0}};
+        for (int from = 6; from >= 1; from--) {
+            for (int to = 0; to <= from; to++) {
+                for (int k = 0; k < things.length && to < 3; k++) {
+                    Check.tell(feet, men(from) + things[0]);
+                    Check.same("of " + from, feet.match(6), worths[0][Math.min(2, from)]);
+                    Check.tell(feet, men(to) + things[k]);
+                    Check.same("of " + to + ", things " + k, feet.match(6), worths[k][to]);
+                }
+            }
+            feet = new ColdFeet();
+        }
     }
 
     private static void order(ColdFeet feet, int... want) {
@@ -1029,5 +1076,27 @@ final class EdgeAskTest {
         held.go(1);
         Check.same("one more", held.tried(0, 0, 9), 1);
         Check.same("he isn't held now", held.man(0, 8), 0);
+    }
+
+    private static void rueOfTried() {
+        Check.about("TRIED: 3 nobody is HURT (else it goes as it goes: RUE is more by E of after)");
+        // t makes a dare u, u makes b dare v: each by the DEPTH of his own thing, and by his own RUE
+        String told = "man a 0 10 9;man b 50 10 9;thing t 1 3 99;thing u 1 1 99;thing v 1 2 99;heat 0;"
+            + "law dare depth=3 and fear=0 or depth=1 and rue=13 or depth=2 and rue=14 and fear=0;law after depth;";
+        for (String hurt : new String[] {"", "law hurt fear*2;", "law hurt (depth=1)*100;"}) {
+            ColdFeet feet = Check.of(told + hurt);
+            Check.same("nobody is hurt " + hurt, feet.tried(3, 0, 20), 3);
+            Check.same("t " + hurt, feet.tried(3, 0, 6), 1);
+            Check.same("u " + hurt, feet.tried(3, 0, 8), 2);
+            Check.same("v " + hurt, feet.tried(3, 0, 12), 3);
+            Check.same("not yet v " + hurt, feet.tried(3, 0, 11), 2);
+            Check.same("as it goes " + hurt, feet.tried(0, 0, 20), hurt.contains("100") ? 1 : 3);
+        }
+        // both come out in the same STEP: each has E of his own
+        ColdFeet two = Check.of("man a 0 10 9;man b 1 30 9;thing t 1 1 99;thing u 1 1 99;thing v 1 4 99;thing w 1 5 99;heat 0;"
+            + "law dare step=0 or fear=0 and depth=4 and rue=11 or fear=1 and depth=5 and rue=33;law after rue/10;");
+        Check.same("two", two.tried(3, 0, 2), 2);
+        Check.same("a's", two.tried(3, 0, 10), 3);
+        Check.same("b's", two.tried(3, 0, 12), 4);
     }
 }

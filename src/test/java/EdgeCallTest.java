@@ -34,6 +34,7 @@ final class EdgeCallTest {
         lastStep();
         undoesTheLatest();
         twentyAtMost();
+        twentyOfEachKind();
         undoesEachKind();
         noStepWentBy();
         imageInPlaceOfOne();
@@ -628,6 +629,41 @@ final class EdgeCallTest {
         Check.same("and no more", full.count(14), 20);
         full.undo();
         Check.same("held", full.man(0, 8), 1);
+    }
+
+    /** Deeds of all kinds to all men, more than can be undone: the states ahead of the last twenty come back, one by one. */
+    private static void twentyOfEachKind() {
+        Check.about("==== 4: Looks, places, holding back, wetting by call can be undone, the latest first (20 at most)");
+        String told = men(4) + things(3) + "crowd 999;";
+        for (int deeds : new int[] {20, 21, 23, 27, 44}) {
+            ColdFeet feet = Check.of(told);
+            String[] states = new String[deeds + 1];
+            for (int k = 0; k < deeds; k++) {
+                states[k] = withoutUndo(feet);
+                doOne(feet, k);
+                Check.same("what can be undone", feet.count(14), Math.min(20, k + 1));
+            }
+            for (int left = 19; left >= 0; left--) {
+                Check.same("undo", feet.undo(), left);
+                Check.same("undone of " + deeds + ", left " + left, withoutUndo(feet), states[deeds - 20 + left]);
+            }
+            Check.same("no more", feet.undo(), -1);
+            Check.same("it stays", withoutUndo(feet), states[deeds - 20]);
+        }
+    }
+
+    private static String withoutUndo(ColdFeet feet) {
+        return Show.state(feet).replaceFirst("undo [0-9]+", "");
+    }
+
+    private static void doOne(ColdFeet feet, int k) {
+        int man = k * 7 % 4;
+        switch (k * 5 % 7 % 4) {
+            case 0: Check.same("pay", feet.pay(man, k + 1) >= 0, true); break;
+            case 1: Check.same("swap", feet.swap(man, (man + 1 + k % 3) % 4), true); break;
+            case 2: Check.same("hold", feet.hold(man, feet.man(man, 8) == 0), true); break;
+            default: Check.same("wet", feet.wet(k % 3, 1 + k % 20) >= 0, true);
+        }
     }
 
     private static void undoesEachKind() {

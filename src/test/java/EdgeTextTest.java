@@ -32,6 +32,7 @@ final class EdgeTextTest {
         numbersOfLooks();
         numbersOfSettings();
         settingsWithout();
+        nothingOfTextsAhead();
         numberedAsTheyCome();
         namesOfTheirKind();
         firstFaultAlongTheText();
@@ -465,6 +466,41 @@ final class EdgeTextTest {
         Check.same("risk of the next text", again.comesBack(1, 0), 1);
         again.go(1);
         Check.same("heat of the next text", again.count(8), 1);
+    }
+
+    /** Several texts behind one another, so that whatever row one of them was kept in is used again. */
+    private static void nothingOfTextsAhead() {
+        Check.about("Promise 3: The TAPE's first n bytes are the TEXT (nothing of a TEXT or a FAULT ahead of it)");
+        String full = men(6) + things(8) + "look a 0 1;".repeat(10) + "crowd 1;heat 9;gust 100;risk 100;seed 5;"
+            + "law dare 1+1;law after 2+2;law hurt 3+3;";
+        String[] spoilt = {"crowd 1;heat 9;gust 100;risk 100;seed 5;law dare ((1+(not 1)*2)+(!", "law hurt (((((((1+2*", full + "!",
+            men(1) + "look a 0 9;look a 0 9;!"};
+        ColdFeet feet = new ColdFeet();
+        for (int k = 0; k < 4; k++) {
+            Check.same("full", Check.tell(feet, full), 32);
+            for (int what = 0; what < 3; what++) {
+                Check.same("law " + what + " of full", feet.law(what, 0), 2 + 2 * what);
+            }
+            for (int j = 0; j <= k; j++) {
+                Check.same("spoilt", Check.tell(feet, spoilt[j]), -1);
+            }
+            Check.same("without", Check.tell(feet, "man a 5 0 1;thing t 1 1 50;"), 2);
+            for (int what = 0; what < 3; what++) {
+                Check.same("law " + what, feet.law(what, 0), Long.MIN_VALUE);
+            }
+            Check.same("men", feet.count(0), 1);
+            Check.same("things", feet.count(1), 1);
+            Check.same("knots", feet.count(2), 0);
+            Check.same("crowd", feet.count(9), 99);
+            Check.same("risk", feet.comesBack(1, 1), 1);
+            Check.same("premium without", feet.premium(0), 5);
+            feet.go(2);
+            Check.same("heat, gust", feet.count(8), 2);
+            Check.same("looks", feet.man(0, 3), 0);
+            Check.same("eight open again", Check.tell(feet, men(1) + "law dare ((((((((9-1*2))))))));"), 2);
+            Check.same("9-1*2", feet.law(0, 0), 7);
+            Check.same("64 knots again", Check.tell(feet, "law hurt not 1" + "+1".repeat(31) + ";"), 1);
+        }
     }
 
     private static void numberedAsTheyCome() {
